@@ -988,7 +988,7 @@ public final class HornTests {
         private void readLine() {
             int word = token == NAME ? wordRead() : NO_WORD;
             if (word == NO_WORD) {
-                refuseToken();
+                refuse(faultOfToken(), from);
             } else if (word < KINDS) {
                 readTest(word);
             } else {
@@ -998,7 +998,7 @@ public final class HornTests {
                 return;
             }
             if (token != STOP) {
-                refuseToken();
+                refuse(faultOfToken(), from);
                 return;
             }
             lines++;
@@ -1073,19 +1073,15 @@ public final class HornTests {
 
         /** Whether the token is a NUMBER of these bounds; what is wrong with it is told. */
         private boolean isNumberWithin(int least, int most) {
-            if (token != NUMBER) {
-                refuseToken();
-                return false;
+            if (token == NUMBER && within(number, least, most)) {
+                return true;
             }
-            if (!within(number, least, most)) {
-                refuse(OUT_OF_BOUNDS, from);
-                return false;
-            }
-            return true;
+            refuse(token == NUMBER ? OUT_OF_BOUNDS : faultOfToken(), from);
+            return false;
         }
 
-        private void refuseToken() {
-            refuse(token == NO_TOKEN ? BROKEN : MISPLACED, from);
+        private int faultOfToken() {
+            return token == NO_TOKEN ? BROKEN : MISPLACED;
         }
 
         private void refuse(int itsFault, int itsPlace) {
@@ -1094,38 +1090,40 @@ public final class HornTests {
         }
 
         private void advance() {
-            while (at < length && bytes[at] == ' ') {
-                at++;
-            }
+            skip(' ', ' ');
             from = at;
             if (at >= length) {
                 token = END;
             } else if (bytes[at] == ';') {
                 token = STOP;
                 at++;
-            } else if (isAt('a', 'z')) {
+            } else if (within(bytes[at], 'a', 'z')) {
                 token = NAME;
-                while (at < length && isAt('a', 'z')) {
-                    at++;
-                }
-            } else if (isAt('0', '9')) {
+                skip('a', 'z');
+            } else if (within(bytes[at], '0', '9')) {
+                skip('0', '9');
                 takeNumber();
             } else {
                 token = NO_TOKEN;
             }
         }
 
-        private void takeNumber() {
-            number = 0;
-            while (at < length && isAt('0', '9')) {
-                number = number * 10 + bytes[at] - '0';
+        private void skip(char first, char last) {
+            while (at < length && bytes[at] >= first && bytes[at] <= last) {
                 at++;
             }
-            token = at - from > LONGEST_NUMBER ? NO_TOKEN : NUMBER;
         }
 
-        private boolean isAt(char first, char last) {
-            return at < length && bytes[at] >= first && bytes[at] <= last;
+        private void takeNumber() {
+            if (at - from > LONGEST_NUMBER) {
+                token = NO_TOKEN;
+                return;
+            }
+            token = NUMBER;
+            number = 0;
+            for (int i = from; i < at; i++) {
+                number = number * 10 + bytes[i] - '0';
+            }
         }
 
         private int wordRead() {
