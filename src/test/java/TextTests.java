@@ -104,7 +104,7 @@ public final class TextTests {
         takes(s, "plain 10 10 10;", 1, "test(0,1)=10 test(0,2)=10 test(0,3)=10");
         takes(s, "plain 09 00 01;", 1, "test(0,1)=9 test(0,2)=0 test(0,3)=1");
         takes(s, "plain 98 76 54;", 1, "test(0,1)=98 test(0,2)=76 test(0,3)=54");
-        s = "1 a NUMBER that is too long (its first byte)";
+        s = "FAULT 1, a NUMBER that is too long (its first byte)";
         refuses(s, "plain 100;", 6, NO_TOKEN);
         refuses(s, "plain 001;", 6, NO_TOKEN);
         refuses(s, "plain 5 005;", 8, NO_TOKEN);
@@ -162,12 +162,12 @@ public final class TextTests {
     }
 
     private static void byteAt(String ahead, int c, int answer, int fault) {
-        new Run(DUE, "1 no TOKEN: byte " + c + " behind '" + ahead + "'").write(ahead)
+        new Run(DUE, "FAULT 1, no TOKEN: byte " + c + " behind '" + ahead + "'").write(ahead)
             .is("feed(" + c + ")=" + (ahead.length() + 1) + " text()=" + answer + " fault()=" + fault);
     }
 
     private static void namesThatBeginALine() {
-        String s = "2 a NAME that begins no line";
+        String s = "FAULT 2, a NAME that begins no line";
         for (String name : new String[] {"plain", "snake", "sea", "age", "guest", "laughs", "plan"}) {
             refuses(s, name + "s 5;", 0, MISPLACED);
             refuses(s, "a" + name + " 5;", 0, MISPLACED);
@@ -182,10 +182,10 @@ public final class TextTests {
         }
         refuses(s, "plan;rest 1;", 5, MISPLACED);
         refuses(s, "x", 0, MISPLACED);
-        refuses("2 a TOKEN that can not stand at a line's beginning", "5;", 0, MISPLACED);
-        refuses("2 a TOKEN that can not stand at a line's beginning", ";", 0, MISPLACED);
-        refuses("2 a TOKEN that can not stand at a line's beginning", "guest 5;7;", 8, MISPLACED);
-        refuses("2 a TOKEN that can not stand at a line's beginning", "guest 5; ;", 9, MISPLACED);
+        refuses("FAULT 2, a TOKEN that can not stand at a line's beginning", "5;", 0, MISPLACED);
+        refuses("FAULT 2, a TOKEN that can not stand at a line's beginning", ";", 0, MISPLACED);
+        refuses("FAULT 2, a TOKEN that can not stand at a line's beginning", "guest 5;7;", 8, MISPLACED);
+        refuses("FAULT 2, a TOKEN that can not stand at a line's beginning", "guest 5; ;", 9, MISPLACED);
     }
 
     private static void linesOfATest() {
@@ -196,14 +196,14 @@ public final class TextTests {
             takes(s, k + " 8;", 1, "rule(0)=1 test(0,0)=" + kind + " test(0,1)=8 test(0,2)=0 test(0,3)=0");
             takes(s, k + " 8 6;", 1, "rule(0)=1 test(0,0)=" + kind + " test(0,1)=8 test(0,2)=6 test(0,3)=0");
             takes(s, k + " 8 6 4;", 1, "rule(0)=1 test(0,0)=" + kind + " test(0,1)=8 test(0,2)=6 test(0,3)=4");
-            s = "2 a TOKEN that can not stand there";
+            s = "FAULT 2, a TOKEN that can not stand there";
             refuses(s, k + ";", n, MISPLACED);
             refuses(s, k + " plan", n + 1, MISPLACED);
             refuses(s, k + " 8 plan", n + 3, MISPLACED);
             refuses(s, k + " 8 6 plan", n + 5, MISPLACED);
             refuses(s, k + " 8 6 4 plan", n + 7, MISPLACED);
             refuses(s, k + " 8 6 4 2;", n + 7, MISPLACED);
-            s = "2 the end: the length";
+            s = "FAULT 2, the end: the length";
             refuses(s, k, n, MISPLACED);
             refuses(s, k + "  ", n + 2, MISPLACED);
             refuses(s, k + " 8", n + 2, MISPLACED);
@@ -217,12 +217,12 @@ public final class TextTests {
             int n = name.length();
             String what = name.equals("guest") ? "rule(1)" : "rule(2)";
             takes("line: " + name + " N ;", name + " 8;", 1, what + "=8 rule(0)=0 rule(3)=0");
-            String s = "2 a TOKEN that can not stand there";
+            String s = "FAULT 2, a TOKEN that can not stand there";
             refuses(s, name + ";", n, MISPLACED);
             refuses(s, name + " sea", n + 1, MISPLACED);
             refuses(s, name + " 8 8;", n + 3, MISPLACED);
             refuses(s, name + " 8 sea", n + 3, MISPLACED);
-            s = "2 the end: the length";
+            s = "FAULT 2, the end: the length";
             refuses(s, name, n, MISPLACED);
             refuses(s, name + " ", n + 1, MISPLACED);
             refuses(s, name + " 8", n + 2, MISPLACED);
@@ -236,11 +236,11 @@ public final class TextTests {
         takes(s, "plan;", 1, "rule(3)=0 act(0)=BAD");
         takes(s, "plan 4;", 1, "rule(3)=1 act(0)=4 act(1)=BAD");
         takes(s, "plan 4 4 4 4 4 4 4 4;", 1, "rule(3)=8 act(0)=4 act(7)=4");
-        s = "2 a TOKEN that can not stand there";
+        s = "FAULT 2, a TOKEN that can not stand there";
         refuses(s, "plan sea", 5, MISPLACED);
         refuses(s, "plan 4 sea", 7, MISPLACED);
         refuses(s, "plan 4 4 4 4 4 4 4 4 sea", 21, MISPLACED);
-        s = "2 the end: the length";
+        s = "FAULT 2, the end: the length";
         refuses(s, "plan", 4, MISPLACED);
         refuses(s, "plan 4", 6, MISPLACED);
         refuses(s, "plan 4 4 4 4 4 4 4 4", 20, MISPLACED);
@@ -250,37 +250,37 @@ public final class TextTests {
     private static void boundsOfNumbers() {
         takes("SIZE 1", "sea 1;", 1, "test(0,1)=1");
         takes("SIZE 99", "sea 99;", 1, "test(0,1)=99");
-        refuses("3 SIZE 0", "sea 0;", 4, OUT_OF_BOUNDS);
-        refuses("3 SIZE 0", "sea 00;", 4, OUT_OF_BOUNDS);
-        refuses("3 SIZE 0", "sea 0 0 0;", 4, OUT_OF_BOUNDS);
+        refuses("FAULT 3, SIZE 0", "sea 0;", 4, OUT_OF_BOUNDS);
+        refuses("FAULT 3, SIZE 0", "sea 00;", 4, OUT_OF_BOUNDS);
+        refuses("FAULT 3, SIZE 0", "sea 0 0 0;", 4, OUT_OF_BOUNDS);
         takes("MOVED 0", "sea 9 0;", 1, "test(0,2)=0 rule(4)=0");
         takes("MOVED SIZE", "sea 9 9;", 1, "test(0,2)=9 rule(4)=1");
-        refuses("3 MOVED above SIZE", "sea 9 10;", 6, OUT_OF_BOUNDS);
+        refuses("FAULT 3, MOVED above SIZE", "sea 9 10;", 6, OUT_OF_BOUNDS);
         takes("MOVED SIZE", "sea 1 1;", 1, "test(0,2)=1 rule(4)=1");
-        refuses("3 MOVED above SIZE", "sea 1 2;", 6, OUT_OF_BOUNDS);
+        refuses("FAULT 3, MOVED above SIZE", "sea 1 2;", 6, OUT_OF_BOUNDS);
         takes("MOVED SIZE", "sea 99 99;", 1, "test(0,2)=99");
-        refuses("3 MOVED above SIZE", "sea 98 99 5;", 7, OUT_OF_BOUNDS);
-        refuses("3 MOVED above its own SIZE", "sea 50;sea 9 10;", 13, OUT_OF_BOUNDS);
+        refuses("FAULT 3, MOVED above SIZE", "sea 98 99 5;", 7, OUT_OF_BOUNDS);
+        refuses("FAULT 3, MOVED above its own SIZE", "sea 50;sea 9 10;", 13, OUT_OF_BOUNDS);
         takes("PULLED 0", "sea 9 9 0;", 1, "test(0,3)=0");
         takes("PULLED 99, SIZE is no bound of it", "sea 9 0 99;", 1, "test(0,3)=99");
         takes("STRENGTH 0", "guest 0;", 1, "rule(1)=0");
         takes("STRENGTH 20", "guest 20;", 1, "rule(1)=20");
-        refuses("3 STRENGTH 21", "guest 21;", 6, OUT_OF_BOUNDS);
-        refuses("3 STRENGTH 99", "guest 99;", 6, OUT_OF_BOUNDS);
+        refuses("FAULT 3, STRENGTH 21", "guest 21;", 6, OUT_OF_BOUNDS);
+        refuses("FAULT 3, STRENGTH 99", "guest 99;", 6, OUT_OF_BOUNDS);
         takes("LAUGHS 0", "laughs 0;", 1, "rule(2)=0");
         takes("LAUGHS 99", "laughs 99;", 1, "rule(2)=99");
         for (int act = 0; act <= 4; act++) {
             takes("ACTS (0 to 4)", "sea 9;sea 9;sea 9;sea 9;plan " + act + ";", 5, "rule(3)=1 act(0)=" + act);
         }
         for (int ahead = 0; ahead < 8; ahead++) {
-            refuses("3 ACT 5", "plan" + " 4".repeat(ahead) + " 5;", 5 + 2 * ahead, OUT_OF_BOUNDS);
+            refuses("FAULT 3, ACT 5", "plan" + " 4".repeat(ahead) + " 5;", 5 + 2 * ahead, OUT_OF_BOUNDS);
         }
-        refuses("3 ACT 99", "plan 99;", 5, OUT_OF_BOUNDS);
-        refuses("3 ACT 10", "plan 10;", 5, OUT_OF_BOUNDS);
+        refuses("FAULT 3, ACT 99", "plan 99;", 5, OUT_OF_BOUNDS);
+        refuses("FAULT 3, ACT 10", "plan 10;", 5, OUT_OF_BOUNDS);
     }
 
     private static void forTheSecondTime() {
-        String s = "4 guest, laughs, plan for the second time (its NAME)";
+        String s = "FAULT 4, guest, laughs, plan for the second time (its NAME)";
         refuses(s, "guest 1;guest 2;", 8, TWICE);
         refuses(s, "laughs 1;laughs 2;", 9, TWICE);
         refuses(s, "plan 4;plan 4;", 7, TWICE);
@@ -290,12 +290,12 @@ public final class TextTests {
         refuses(s + ", others between", "guest 1;laughs 1;plan;sea 5;guest 1;", 28, TWICE);
         refuses(s + ", others between", "laughs 1;guest 1;plan;laughs 1;", 22, TWICE);
         refuses(s + ", others between", "plan;guest 1;laughs 1;plan;", 22, TWICE);
-        takes("4 KINDS may come again", "sea 1;sea 1;sea 1;sea 1;", 4, "rule(0)=4");
+        takes("no FAULT 4: KINDS may come again", "sea 1;sea 1;sea 1;sea 1;", 4, "rule(0)=4");
         takes("each of them once", "guest 1;laughs 1;plan;", 3, "rule(1)=1 rule(2)=1");
     }
 
     private static void theFifthTest() {
-        String s = "5 the 5th TEST (its NAME)";
+        String s = "FAULT 5, the 5th TEST (its NAME)";
         takes("TESTS (4 at most)", "plain 1;snake 2;sea 3;age 4;", 4, "rule(0)=4 test(0,0)=0 test(1,0)=1 test(2,0)=2 "
             + "test(3,0)=3 test(3,1)=4");
         for (String kind : KINDS) {
@@ -309,16 +309,16 @@ public final class TextTests {
     private static void theNinthAct() {
         String eight = "plan 4 4 4 4 4 4 4 4 ";
         for (String act : new String[] {"0", "4", "5", "9", "10", "99", "00"}) {
-            refuses("5 a 9th ACT (it, whether it is one or not)", eight + act + ";", 21, TOO_MANY);
+            refuses("FAULT 5, a 9th ACT (it, whether it is one or not)", eight + act + ";", 21, TOO_MANY);
         }
-        refuses("5 a 9th ACT, whatever is behind it", eight + "4", 21, TOO_MANY);
-        refuses("1 a 9th that is no TOKEN", eight + "100;", 21, NO_TOKEN);
-        refuses("1 a 9th that is no TOKEN", eight + "#", 21, NO_TOKEN);
-        refuses("2 a 9th that is no NUMBER", eight + "four;", 21, MISPLACED);
+        refuses("FAULT 5, a 9th ACT, whatever is behind it", eight + "4", 21, TOO_MANY);
+        refuses("FAULT 1, a 9th that is no TOKEN", eight + "100;", 21, NO_TOKEN);
+        refuses("FAULT 1, a 9th that is no TOKEN", eight + "#", 21, NO_TOKEN);
+        refuses("FAULT 2, a 9th that is no NUMBER", eight + "four;", 21, MISPLACED);
     }
 
     private static void aTestThatThereIsNot() {
-        String s = "6 a TEST that there is not, behind all (the length)";
+        String s = "FAULT 6, a TEST that there is not, behind all (the length)";
         for (int tests = 0; tests < 4; tests++) {
             String told = "sea 9;".repeat(tests);
             refuses(s, told + "plan " + tests + ";", 6 * tests + 7, MISSING);
